@@ -458,8 +458,9 @@ public final class PullSaw {
             return true;
         }
 
+        /** NONE behind the last one: no letter and no cut is that. */
         int mark(int i) {
-            return Row.at(marks, i);
+            return i >= 0 && i < count && i < marks.length ? marks[i] : NONE;
         }
 
         void clear() {
@@ -592,7 +593,7 @@ public final class PullSaw {
                 draft.layers = i + 1;
                 skipBlanks();
                 // behind the last layer that there may be, no ',' can stand
-                if (i + 1 == LAYERS_MOST || sign() != ',') {
+                if (i + 1 == LAYERS_MOST || text.mark(place) != ',') {
                     break;
                 }
                 place++;
@@ -621,7 +622,7 @@ public final class PullSaw {
 
         private void readEnd() {
             skipBlanks();
-            if (sign() == ';') {
+            if (text.mark(place) == ';') {
                 place++;
             } else {
                 markFault(CANNOT_STAND, place);
@@ -632,9 +633,9 @@ public final class PullSaw {
             skipBlanks();
             int start = place;
             int value = 0;
-            for (int i = 0; i < TEXT_MOST && isFigure(sign()); i++) {
+            for (int i = 0; i < TEXT_MOST && isFigure(text.mark(place)); i++) {
                 // longer ones are a fault: what they are worth is not asked
-                value = i < FIGURES_MOST ? value * 10 + sign() - '0' : value;
+                value = i < FIGURES_MOST ? value * 10 + text.mark(place) - '0' : value;
                 place++;
             }
             if (place == start) {
@@ -646,13 +647,9 @@ public final class PullSaw {
         }
 
         private void skipBlanks() {
-            for (int i = 0; i < TEXT_MOST && sign() == BLANK; i++) {
+            for (int i = 0; i < TEXT_MOST && text.mark(place) == BLANK; i++) {
                 place++;
             }
-        }
-
-        private int sign() {
-            return place < text.count ? text.mark(place) : NONE;
         }
 
         private static boolean isFigure(int sign) {
@@ -1072,45 +1069,50 @@ public final class PullSaw {
         private int lean;
         private int most;
         private int[] costs = new int[2 * WIDTH];
-        private int[] firsts = new int[2 * WIDTH];
         private int[] laterCosts = new int[2 * WIDTH];
-        private int[] laterFirsts = new int[2 * WIDTH];
 
         void weigh(int askewNow, int leanNow, int n, int m) {
             askew = askewNow;
             lean = leanNow;
             most = m;
+            latestFirst = NONE;
             Row.fill(costs, 0);
-            Row.fill(firsts, NONE);
             for (int stroke = Math.min(n, CHANGES_MOST) - 1; stroke >= 0; stroke--) {
                 stepBack();
                 for (int steps = -stroke; steps <= stroke; steps++) {
-                    weighAhead(stroke, steps, 1);
-                    weighAhead(stroke, steps, -1);
+                    weighAhead(steps, 1);
+                    weighAhead(steps, -1);
+                }
+                // ahead of the first change every stroke has gone one way: no other state is looked at
+                if (costOfChange(stroke, 1) < costOfStay(stroke, 1)) {
+                    latestFirst = stroke;
                 }
             }
-            int cost = Row.at(costs, place(0, 1));
-            fewest = cost >= IMPOSSIBLE ? NONE : cost;
-            latestFirst = cost >= IMPOSSIBLE ? NONE : Row.at(firsts, place(0, 1));
+            fewest = Row.at(costs, place(0, 1));
+            if (fewest >= IMPOSSIBLE) {
+                fewest = NONE;
+                latestFirst = NONE;
+            }
         }
 
         private void stepBack() {
             int[] row = laterCosts;
             laterCosts = costs;
             costs = row;
-            row = laterFirsts;
-            laterFirsts = firsts;
-            firsts = row;
         }
 
-        /** Ahead of a stroke, with so many steps of lean gone, and the sides as now (1) or changed (-1). */
-        private void weighAhead(int stroke, int steps, int side) {
-            int stay = costBehind(steps + side, side);
-            int change = Math.min(IMPOSSIBLE, costBehind(steps - side, -side) + 1);
-            boolean stays = stay <= change;
-            int first = stays ? Row.at(laterFirsts, place(steps + side, side)) : stroke;
-            Row.put(costs, place(steps, side), stays ? stay : change);
-            Row.put(firsts, place(steps, side), first);
+        /** With so many steps of lean gone, and the sides as now (1) or changed (-1). */
+        private void weighAhead(int steps, int side) {
+            int cost = Math.min(costOfStay(steps, side), costOfChange(steps, side));
+            Row.put(costs, place(steps, side), Math.min(IMPOSSIBLE, cost));
+        }
+
+        private int costOfStay(int steps, int side) {
+            return costBehind(steps + side, side);
+        }
+
+        private int costOfChange(int steps, int side) {
+            return costBehind(steps - side, -side) + 1;
         }
 
         private int costBehind(int steps, int side) {

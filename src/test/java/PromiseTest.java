@@ -380,6 +380,8 @@ public final class PromiseTest {
         strokesDue("GUM", x, 1, 1, 0, 1, 0, 1, 0, 1);
         due("told(9)", x.told(9), 48);
         due("ASKEW by CUTS above 0 alone", x.told(8), 25);
+        x = pair("l9;p5 0 0 5 0;p5 0 0 5 0;s9 0 5;", 0, 1);
+        strokesDue("a tenth of 5, 10, 15, 20", x, 5, 5, 4, 4, 3);
         x = pair("l1;p4 0 0 5 0;p9 0 0 5 0;c0;s2 0 9;", 0, 1);
         strokesDue("GUM ahead of the half", x, 4, 8, 2, 6, 0, 4);
         x = pair("l9;p9 0 0 5 0;p20 0 0 5 0;", 0, 1);
@@ -412,6 +414,13 @@ public final class PromiseTest {
         x.stroke(99);
         due("harder at 0", x.person(0, 7), 0);
         due("softer at 0", x.person(1, 7), 0);
+        x = pair("l9,9;p9 0 0 1 1;p9 0 0 1 2;s1 0 0;", 0, 1);
+        x.stroke(10);
+        x.habit(0, 7);
+        x.habit(1, 7);
+        x.stroke(2);
+        due("5, nearer to 0", x.person(0, 7), 4);
+        due("-5, nearer to 0", x.person(1, 7), -4);
         x = pair("l9,9;p9 0 0 9 0;p9 0 0 9 1;s1 0 0;", 0, 1);
         x.stroke(4);
         due("BUCKLES is no drag", x.person(1, 7), 0);
@@ -750,8 +759,12 @@ public final class PromiseTest {
         due("wishes(0, 1, -1)", x.wishes(0, 1, -1), OUTSIDE);
         due("wishes(0, 1, MIN)", x.wishes(0, 1, MIN), OUTSIDE);
         due("one STROKE", x.wishes(0, 1, 0), 1);
-        due("just enough", x.wishes(0, 1, 1), 20);
+        due("enough", x.wishes(0, 1, 1), 20);
         due("as little as can be", x.wishes(0, 1, 2), 1);
+        x = saw("l1;p1 0 0 5 0;p20 0 0 5 0;");
+        due("1 and 19", x.wishes(0, 1, 0), 2);
+        due("1 and 19", x.wishes(0, 1, 1), 1);
+        due("1 and 19", x.wishes(0, 1, 2), 19);
         x = saw("l1;p18 0 0 5 0;p9 0 0 5 0;");
         due("two STROKES", x.wishes(0, 1, 0), 2);
         due("the first one's lesser", x.wishes(0, 1, 1), 11);
@@ -908,21 +921,33 @@ public final class PromiseTest {
         x = pair("l9,9;p20 0 5 5 0;p20 0 5 5 0;s9 0 0;c1;", 0, 1);
         x.stroke(99);
         due("THROUGH", x.whenWedge(0), NONE);
-        // half a cut ends in the first, soft layer as far as a whole one would; behind it the wood is hard
-        x = pair("l1,9;p20 0 0 5 0;p10 0 0 5 0;s9 0 0;c0;", 0, 1);
-        due("later is better", x.whenWedge(0), wedgeByTrying("l1,9;p20 0 0 5 0;p10 0 0 5 0;s9 0 0;c0;", 0));
-        due("later is better", x.whenWedge(1), wedgeByTrying("l1,9;p20 0 0 5 0;p10 0 0 5 0;s9 0 0;c0;", 1));
-        x = pair("l3,9,2;p20 0 3 8 0;p10 0 0 4 1;s7 2 5;c1;", 0, 1);
-        due("by trying", x.whenWedge(0), wedgeByTrying("l3,9,2;p20 0 3 8 0;p10 0 0 4 1;s7 2 5;c1;", 0));
-        due("by trying", x.whenWedge(1), wedgeByTrying("l3,9,2;p20 0 3 8 0;p10 0 0 4 1;s7 2 5;c1;", 1));
+        wedgeTried("l3,9,2;p20 0 3 8 0;p10 0 0 4 1;s7 2 5;c1;", 0, NONE);
+        wedgeTried("l9,1,9,1,9;p20 0 0 9 0;p16 0 0 7 1;s5 3 0;c2;", 19, 10);
+        wedgeTried("l8,1,9,9;p5 0 4 5 2;p4 0 0 3 1;s5 2 0;c1;", 3, 99);
+        // one STROKE more ahead of it would be fewer still, but 99 bounds it
+        wedgeTried("l5,9,2,8,9;p1 0 4 0 2;p5 0 0 8 2;s4 4 0;c2;", 54, 98);
     }
 
-    private static int wedgeByTrying(String text, int what) {
-        int fewest = pair(text, 0, 1).toGo();
-        fewest = fewest == NONE ? 9999 : fewest;
+    private static void wedgeTried(String text, int strokes, int ahead) {
+        PullSaw x = pair(text, 0, 1);
+        if (strokes > 0) {
+            x.stroke(strokes);
+        }
+        due("whenWedge(0), " + text, x.whenWedge(0), ahead);
+        due("by trying, " + text, wedgeByTrying(text, strokes, 0), ahead);
+        due("whenWedge(1), " + text, x.whenWedge(1), wedgeByTrying(text, strokes, 1));
+    }
+
+    private static int wedgeByTrying(String text, int strokes, int what) {
+        PullSaw x = pair(text, 0, 1);
+        if (strokes > 0) {
+            x.stroke(strokes);
+        }
+        int fewest = x.toGo() == NONE ? 9999 : x.toGo();
         int best = NONE;
+        x.keep(0);
         for (int k = 0; k < 100; k++) {
-            PullSaw x = pair(text, 0, 1);
+            x.goBack(0);
             if (k > 0) {
                 x.stroke(k);
             }
@@ -930,7 +955,7 @@ public final class PromiseTest {
                 break;
             }
             x.wedge();
-            int all = x.toGo() == NONE ? 9999 : x.toGo() + x.told(7);
+            int all = x.toGo() == NONE ? 9999 : x.toGo() + x.told(7) - strokes;
             if (all < fewest) {
                 fewest = all;
                 best = k;
@@ -954,7 +979,7 @@ public final class PromiseTest {
         String was = allOf(x);
         x.whenRest(10, 1);
         same("whenRest()", allOf(x), was);
-        // so tired that 4 STROKES bring nothing, but a REST first makes them one more
+        // 29 and 24 TIRED: 1 less 2 pulls next, then 3 less 2
         x = pair("l1,1,1;p3 0 5 5 0;p1 0 5 5 0;s9 0 0;", 0, 1);
         x.stroke(13);
         due("TIRED", x.person(0, 6), 29);
@@ -962,8 +987,10 @@ public final class PromiseTest {
         int depth = x.told(6);
         due("one turn: nothing by a STROKE, fewest RESTS", x.whenRest(1, 1), 0);
         due("one turn", x.whenRest(1, 0), depth);
-        due("two turns", x.whenRest(2, 0), depth + 9);
+        due("two turns: STROKES alone", x.whenRest(2, 0), depth + 9);
         due("two turns: STROKES alone", x.whenRest(2, 1), 0);
+        // the first row of like ones would have 2 RESTS
+        restsByTrying("l6,9,9,9,9,9,9,9;p4 0 5 7 1;p9 0 4 2 2;s2 5 0;c6;", 54, 6);
         restsByTrying("l1,1,1;p3 0 5 5 0;p1 0 5 5 0;s9 0 0;", 13, 6);
         restsByTrying("l2,3,1;p4 0 5 9 0;p6 0 5 9 0;s9 0 0;", 31, 5);
         restsByTrying("l9,9;p20 0 5 8 1;p20 0 5 3 2;s9 9 0;", 9, 7);
