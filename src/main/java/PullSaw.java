@@ -862,6 +862,10 @@ public final class PullSaw {
         int firstWish;
         int otherWish;
         int deepest;
+        private int leftTired;
+        private int rightTired;
+        private int leftAnswer;
+        private int rightAnswer;
         private final Work tried = new Work();
         private final Work further = new Work();
 
@@ -881,13 +885,41 @@ public final class PullSaw {
             Row.copy(yard.forces, tried.wishes);
         }
 
-        private static int strokesThrough(Yard yard, Work work, int most) {
+        private int strokesThrough(Yard yard, Work work, int most) {
             int strokes = 0;
+            int idle = 0;
             while (strokes < most && !work.isThrough(yard)) {
-                work.pullOnce(yard);
+                idle = work.pullOnce(yard) > 0 ? 0 : idle + 1;
                 strokes++;
+                if (idle == 3) {
+                    if (isNoFresher(work)) {
+                        return NEVER;
+                    }
+                    idle = 1;
+                }
+                if (idle == 1) {
+                    rememberPair(work);
+                }
             }
             return work.isThrough(yard) ? strokes : NEVER;
+        }
+
+        private void rememberPair(Work work) {
+            leftTired = Row.at(work.tired, work.left);
+            rightTired = Row.at(work.tired, work.right);
+            leftAnswer = Row.at(work.answers, work.left);
+            rightAnswer = Row.at(work.answers, work.right);
+        }
+
+        /**
+         * Each has pulled once since the pair was remembered, both cut nothing, and gum never gets less: if neither is
+         * less tired now nor answers otherwise, it goes on so with every turn, and nothing is ever cut again.
+         */
+        private boolean isNoFresher(Work work) {
+            return Row.at(work.tired, work.left) >= leftTired
+                && Row.at(work.tired, work.right) >= rightTired
+                && Row.at(work.answers, work.left) == leftAnswer
+                && Row.at(work.answers, work.right) == rightAnswer;
         }
 
         void findWishes(Yard yard, Work now, int a, int b) {
