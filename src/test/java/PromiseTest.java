@@ -722,6 +722,37 @@ public final class PromiseTest {
         x.stroke(1);
         due("998", x.toGo(), 998);
         due("never", pair("l9;p1 0 0 5 0;p1 0 0 5 0;s1 0 0;", 0, 1).toGo(), NONE);
+        toGoBehindAStall("l1,1;p5 0 0 9 0;p5 0 0 9 0;");
+        toGoBehindAStall("l9;p9 0 0 9 0;p1 0 0 9 0;");
+        toGoBehindAStall("l9;p1 0 0 9 0;p9 0 0 9 0;");
+        toGoBehindAStall("l9;p9 0 0 4 2;p1 0 0 4 0;");
+        toGoBehindAStall("l9;p1 0 0 4 0;p9 0 0 4 2;");
+    }
+
+    /** Nothing is cut for a while, for they are tired or answer soft; then it goes on. */
+    private static void toGoBehindAStall(String text) {
+        PullSaw x = pair(text, 0, 1);
+        x.stroke(98);
+        x.habit(0, 5);
+        x.habit(1, 5);
+        x.keep(0);
+        due("a stall, " + text, x.stroke(4), 0);
+        x.goBack(0);
+        due("behind a stall, " + text, x.toGo(), byStrokes(x));
+        x.sides();
+        due("behind a stall, sides changed, " + text, x.toGo(), byStrokes(x));
+    }
+
+    private static int byStrokes(PullSaw x) {
+        x.keep(1);
+        int strokes = 0;
+        while (strokes < 999 && x.told(15) == 0) {
+            x.stroke(1);
+            strokes++;
+        }
+        int answer = x.told(15) == 1 ? strokes : NONE;
+        x.goBack(1);
+        return answer;
     }
 
     private static void fresh() {
@@ -746,6 +777,11 @@ public final class PromiseTest {
         x.habit(0, 4);
         y.habit(0, 4);
         due("HABITS as now", x.fresh(1, 0), y.toGo());
+        // 1, and 1 more behind each pull, less 4, times 5 / 9: nothing by five pulls; the other one never cuts
+        y = saw("l9;p1 0 0 5 1;p1 0 0 4 0;");
+        // then 1, 1, 2, 2, and 3 by each of 32 more
+        due("harder from nothing", y.fresh(0, 1), 2 * (5 + 4 + 32) - 1);
+        due("harder from nothing", y.fresh(1, 0), 2 * (5 + 4 + 32));
         due("the first one is LEFT and pulls first", saw("l1;p20 0 0 5 0;p1 0 0 5 0;").fresh(0, 1), 1);
         due("the other one first", saw("l1;p20 0 0 5 0;p1 0 0 5 0;").fresh(1, 0), 2);
         due("never", saw("l9;p1 0 0 5 0;p1 0 0 5 0;s1 0 0;").fresh(0, 1), NONE);
