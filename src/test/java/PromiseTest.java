@@ -36,15 +36,15 @@ public final class PromiseTest {
 
     // ---- helpers
 
-    private static int read(PullSaw x, String text) {
+    private static int read(Saw x, String text) {
         for (int i = 0; i < text.length(); i++) {
             x.feed(text.charAt(i));
         }
         return x.yard();
     }
 
-    private static PullSaw saw(String text) {
-        PullSaw x = new PullSaw();
+    private static Saw saw(String text) {
+        Saw x = new Saw();
         int layers = read(x, text);
         if (layers < 0) {
             due("yard() of " + text, layers, 0);
@@ -52,14 +52,14 @@ public final class PromiseTest {
         return x;
     }
 
-    private static PullSaw pair(String text, int a, int b) {
-        PullSaw x = saw(text);
+    private static Saw pair(String text, int a, int b) {
+        Saw x = saw(text);
         due("log", x.log(a, b), a);
         return x;
     }
 
     /** All that can be told of an object without changing it. */
-    private static String allOf(PullSaw x) {
+    private static String allOf(Saw x) {
         StringBuilder s = new StringBuilder();
         for (int i = 0; i <= 18; i++) {
             s.append(x.told(i)).append(' ');
@@ -79,7 +79,7 @@ public final class PromiseTest {
         }
     }
 
-    private static void strokesDue(String what, PullSaw x, int... cuts) {
+    private static void strokesDue(String what, Saw x, int... cuts) {
         for (int i = 0; i < cuts.length; i++) {
             due(what + ": stroke " + i, x.stroke(1), cuts[i]);
         }
@@ -88,7 +88,7 @@ public final class PromiseTest {
     // ---- the yard
 
     private static void newObject() {
-        PullSaw x = new PullSaw();
+        Saw x = new Saw();
         int[] want = {0, 0, 0, NONE, NONE, NONE, 0, 0, 0, 0, 0, 5, 2, 0, 12, 0, 0, 0, 0};
         for (int i = 0; i < want.length; i++) {
             due("told(" + i + ")", x.told(i), want[i]);
@@ -113,7 +113,7 @@ public final class PromiseTest {
     }
 
     private static void feed() {
-        PullSaw x = new PullSaw();
+        Saw x = new Saw();
         due("feed(-1)", x.feed(-1), OUTSIDE);
         due("feed(256)", x.feed(256), OUTSIDE);
         due("feed(MIN)", x.feed(MIN), OUTSIDE);
@@ -132,7 +132,7 @@ public final class PromiseTest {
     }
 
     private static void yardDue(String text, int layers) {
-        due("yard() of '" + text + "'", read(new PullSaw(), text), layers);
+        due("yard() of '" + text + "'", read(new Saw(), text), layers);
     }
 
     private static void yard() {
@@ -143,7 +143,7 @@ public final class PromiseTest {
         yardDue("  l 1 , 002 ; p 20 9 5 9 2 ; s 9 9 9 ; c 12 ; ", 2);
         yardDue("l1;c0;s1 0 0;p1 0 0 0 0;p1 0 0 0 0;p1 0 0 0 0;p001 000 0 0 0;", 1);
 
-        PullSaw x = pair(PLAIN + "s3 1 4;c1;", 0, 1);
+        Saw x = pair(PLAIN + "s3 1 4;c1;", 0, 1);
         x.stroke(2);
         x.wedge();
         x.file();
@@ -182,7 +182,7 @@ public final class PromiseTest {
     }
 
     private static void faultDue(String text, int kind, int place) {
-        PullSaw x = new PullSaw();
+        Saw x = new Saw();
         due("yard() of '" + text + "'", read(x, text), -10 - kind);
         due("fault() of '" + text + "'", x.fault(), place);
         due("told(2) of '" + text + "'", x.told(2), 0);
@@ -240,7 +240,7 @@ public final class PromiseTest {
         faultDue("l1;s1 0 0;s", 3, 10);
         faultDue("l1;c1;c", 3, 6);
         faultDue("l1;p1 0 0 0 0;p1 0 0 0 0;p1 0 0 0 0;p1 0 0 0 0;p", 3, 47);
-        PullSaw x = new PullSaw();
+        Saw x = new Saw();
         read(x, "l1;x");
         due("fault()", x.fault(), 3);
         x.feed('l');
@@ -248,7 +248,7 @@ public final class PromiseTest {
     }
 
     private static void told() {
-        PullSaw x = saw(PLAIN + "s3 1 4;c1;");
+        Saw x = saw(PLAIN + "s3 1 4;c1;");
         int[] bare = {2, 4, 0, NONE, NONE, NONE, 0, 0, 0, 0, 0, 3, 1, 4, 1, 0, 0, 0, 0};
         for (int i = 0; i < bare.length; i++) {
             due("told(" + i + ")", x.told(i), bare[i]);
@@ -275,7 +275,7 @@ public final class PromiseTest {
     }
 
     private static void wood() {
-        PullSaw x = saw("l9,1,5;");
+        Saw x = saw("l9,1,5;");
         due("wood(0)", x.wood(0), 9);
         due("wood(1)", x.wood(1), 1);
         due("wood(2)", x.wood(2), 5);
@@ -288,7 +288,7 @@ public final class PromiseTest {
     }
 
     private static void person() {
-        PullSaw x = saw("l1,1;p12 6 3 2 1;p9 8 5 7 2;");
+        Saw x = saw("l1,1;p12 6 3 2 1;p9 8 5 7 2;");
         int[][] want = {{12, 6, 3, 2, 1, 12, 0, 0}, {9, 8, 5, 7, 2, 9, 0, 0}};
         for (int p = 0; p < 2; p++) {
             for (int what = 0; what < 8; what++) {
@@ -315,7 +315,7 @@ public final class PromiseTest {
     // ---- deeds
 
     private static void log() {
-        PullSaw x = saw(PLAIN);
+        Saw x = saw(PLAIN);
         due("log(0, 0)", x.log(0, 0), UNKNOWN);
         due("log(0, 4)", x.log(0, 4), UNKNOWN);
         due("log(-1, 0)", x.log(-1, 0), UNKNOWN);
@@ -341,7 +341,7 @@ public final class PromiseTest {
     }
 
     private static void stroke() {
-        PullSaw x = saw(PLAIN);
+        Saw x = saw(PLAIN);
         due("no PAIR", x.stroke(1), NOT);
         due("OUTSIDE ahead of NOT", x.stroke(0), OUTSIDE);
         x.log(0, 1);
@@ -373,7 +373,7 @@ public final class PromiseTest {
         strokesDue("WOOD cuts the product", pair("l9;p7 0 0 5 0;p8 0 0 5 0;", 0, 1), 3, 4);
         strokesDue("CLOSES from 0", pair("l1;p5 0 0 5 0;p4 0 0 5 0;c0;", 0, 1), 10, 10);
         strokesDue("CLOSES from 1", pair("l1,1;p9 0 0 5 0;p7 0 0 5 0;c1;s9 0 0;", 0, 1), 81, 63, 36);
-        PullSaw x = pair("l1;p5 0 0 5 0;p4 0 0 5 0;c0;", 0, 1);
+        Saw x = pair("l1;p5 0 0 5 0;p4 0 0 5 0;c0;", 0, 1);
         x.wedge();
         strokesDue("with a WEDGE", x, 25, 20);
         x = pair("l5,5;p5 9 0 5 0;p9 4 0 5 0;s1 2 6;", 0, 1);
@@ -400,7 +400,7 @@ public final class PromiseTest {
     }
 
     private static void strokeAnswers() {
-        PullSaw x = pair("l9,9;p9 0 0 1 1;p9 0 0 1 2;s1 0 0;", 0, 1);
+        Saw x = pair("l9,9;p9 0 0 1 1;p9 0 0 1 2;s1 0 0;", 0, 1);
         for (int i = 1; i <= 12; i++) {
             x.stroke(2);
             due("harder " + i, x.person(0, 7), Math.min(9, i));
@@ -432,7 +432,7 @@ public final class PromiseTest {
     }
 
     private static void strokeTires() {
-        PullSaw x = pair("l9,9,9,9,9,9;p20 1 5 5 0;p20 9 1 5 0;s1 0 0;", 0, 1);
+        Saw x = pair("l9,9,9,9,9,9;p20 1 5 5 0;p20 9 1 5 0;s1 0 0;", 0, 1);
         x.stroke(1);
         due("the one who waits stays 0", x.person(1, 6), 0);
         x.stroke(6);
@@ -455,7 +455,7 @@ public final class PromiseTest {
     }
 
     private static void rest() {
-        PullSaw x = saw(PLAIN);
+        Saw x = saw(PLAIN);
         due("no PAIR", x.rest(1), NOT);
         due("OUTSIDE ahead of NOT", x.rest(0), OUTSIDE);
         x.log(0, 1);
@@ -476,7 +476,7 @@ public final class PromiseTest {
     }
 
     private static void sides() {
-        PullSaw x = saw(PLAIN);
+        Saw x = saw(PLAIN);
         due("no PAIR", x.sides(), NOT);
         x.log(0, 1);
         due("sides()", x.sides(), 1);
@@ -494,7 +494,7 @@ public final class PromiseTest {
     }
 
     private static void oil() {
-        PullSaw x = saw(PLAIN + "s5 2 4;");
+        Saw x = saw(PLAIN + "s5 2 4;");
         due("no PAIR", x.oil(), NOT);
         x.log(0, 1);
         due("no GUM", x.oil(), 0);
@@ -509,7 +509,7 @@ public final class PromiseTest {
     }
 
     private static void wedge() {
-        PullSaw x = saw(PLAIN + "c0;");
+        Saw x = saw(PLAIN + "c0;");
         due("no PAIR", x.wedge(), NOT);
         x.log(0, 1);
         due("half", x.stroke(1), 12);
@@ -525,7 +525,7 @@ public final class PromiseTest {
     }
 
     private static void file() {
-        PullSaw x = saw(PLAIN + "s8 2 0;");
+        Saw x = saw(PLAIN + "s8 2 0;");
         due("no PAIR", x.file(), NOT);
         x.log(0, 1);
         due("TEETH 8", x.stroke(1), 40);
@@ -542,7 +542,7 @@ public final class PromiseTest {
     }
 
     private static void wish() {
-        PullSaw x = saw(PLAIN);
+        Saw x = saw(PLAIN);
         due("wish(4, 1)", x.wish(4, 1), UNKNOWN);
         due("wish(-1, 0)", x.wish(-1, 0), UNKNOWN);
         due("wish(MAX, MAX)", x.wish(MAX, MAX), UNKNOWN);
@@ -560,7 +560,7 @@ public final class PromiseTest {
     }
 
     private static void habit() {
-        PullSaw x = saw(PLAIN);
+        Saw x = saw(PLAIN);
         due("habit(4, 1)", x.habit(4, 1), UNKNOWN);
         due("habit(-1, 10)", x.habit(-1, 10), UNKNOWN);
         due("habit(0, -1)", x.habit(0, -1), OUTSIDE);
@@ -576,18 +576,18 @@ public final class PromiseTest {
     }
 
     private static void drift() {
-        PullSaw x = saw(PLAIN + "s5 2 3;");
+        Saw x = saw(PLAIN + "s5 2 3;");
         due("no PAIR", x.drift(1), NOT);
         due("OUTSIDE ahead of NOT", x.drift(0), OUTSIDE);
         x.log(0, 1);
         due("drift(100)", x.drift(100), OUTSIDE);
         due("drift(MIN)", x.drift(MIN), OUTSIDE);
         due("none drawn", x.seed(0), 0);
-        PullSaw y = pair(PLAIN + "s5 2 3;", 0, 1);
+        Saw y = pair(PLAIN + "s5 2 3;", 0, 1);
         long seed = 0;
         int rests = 0;
         int oils = 0;
-        for (int i = 0; i < 40; i++) {
+        for (int i = 0; i < 25; i++) {
             seed = (seed * 1103515245L + 12345L) % 2147483648L;
             int draw = (int) (seed / 65536 % 8);
             if (y.told(15) == 0) {
@@ -623,39 +623,32 @@ public final class PromiseTest {
     }
 
     private static void undo() {
-        PullSaw x = saw(PLAIN + "s5 2 3;");
+        Saw x = saw(PLAIN + "s5 2 3;");
         due("undo(0)", x.undo(0), OUTSIDE);
         due("undo(31)", x.undo(31), OUTSIDE);
         due("undo(MIN)", x.undo(MIN), OUTSIDE);
         due("undo(1)", x.undo(1), NOT);
         x.log(0, 1);
-        String[] stood = new String[12];
-        int deeds = 0;
+        String[] stood = new String[10];
         for (int deed = 0; deed < 9; deed++) {
-            stood[deeds++] = allOf(x);
-            switch (deed) {
-                case 0: x.stroke(3); break;
-                case 1: x.rest(2); break;
-                case 2: x.sides(); break;
-                case 3: x.wedge(); break;
-                case 4: x.file(); break;
-                case 5: x.wish(3, 3); break;
-                case 6: x.habit(2, 9); break;
-                case 7: x.oil(); break;
-                default: x.drift(3); break;
-            }
+            stood[deed] = x.work();
+            deedOf(x, deed);
         }
-        String last = allOf(x);
+        stood[9] = x.work();
         due("told(18)", x.told(18), 9);
+        x = pair(PLAIN + "s5 2 3;", 0, 1);
+        for (int deed = 0; deed < 9; deed++) {
+            deedOf(x, deed);
+        }
         x.oil();
         x.oil();
         x.undo(1);
-        same("undo(1)", allOf(x), last);
+        same("undo(1)", x.work(), stood[9]);
         int seedThen = x.seed(5);
         due("drawn", seedThen == 0 ? 0 : 1, 1);
-        for (int i = deeds - 1; i >= 0; i--) {
+        for (int i = 8; i >= 0; i--) {
             x.undo(1);
-            same("undone to " + i, allOf(x), stood[i]);
+            same("undone to " + i, x.work(), stood[i]);
         }
         due("THE SEED stays", x.seed(0), 5);
         due("no more", x.undo(1), NOT);
@@ -667,8 +660,22 @@ public final class PromiseTest {
         undoOfMany();
     }
 
+    private static void deedOf(Saw x, int deed) {
+        switch (deed) {
+            case 0: x.stroke(3); break;
+            case 1: x.rest(2); break;
+            case 2: x.sides(); break;
+            case 3: x.wedge(); break;
+            case 4: x.file(); break;
+            case 5: x.wish(3, 3); break;
+            case 6: x.habit(2, 9); break;
+            case 7: x.oil(); break;
+            default: x.drift(3); break;
+        }
+    }
+
     private static void undoOfMany() {
-        PullSaw x = pair("l9,9,9,9,9,9;p1 0 0 5 0;p1 0 0 5 0;s1 0 0;", 0, 1);
+        Saw x = pair("l9,9,9,9,9,9;p1 0 0 5 0;p1 0 0 5 0;s1 0 0;", 0, 1);
         for (int i = 0; i < 45; i++) {
             x.rest(1);
         }
@@ -701,7 +708,7 @@ public final class PromiseTest {
     // ---- tried
 
     private static void toGo() {
-        PullSaw x = saw(PLAIN);
+        Saw x = saw(PLAIN);
         due("no PAIR", x.toGo(), NOT);
         x.log(0, 1);
         String was = allOf(x);
@@ -731,7 +738,7 @@ public final class PromiseTest {
 
     /** Nothing is cut for a while, for they are tired or answer soft; then it goes on. */
     private static void toGoBehindAStall(String text) {
-        PullSaw x = pair(text, 0, 1);
+        Saw x = pair(text, 0, 1);
         x.stroke(98);
         x.habit(0, 5);
         x.habit(1, 5);
@@ -743,9 +750,19 @@ public final class PromiseTest {
         due("behind a stall, sides changed, " + text, x.toGo(), byStrokes(x));
     }
 
-    private static int byStrokes(PullSaw x) {
+    /** By STROKES in plenty at first, then one by one. */
+    private static int byStrokes(Saw x) {
         x.keep(1);
         int strokes = 0;
+        while (strokes + 99 <= 999 && x.told(15) == 0) {
+            x.keep(0);
+            x.stroke(99);
+            strokes += 99;
+        }
+        if (x.told(15) == 1) {
+            x.goBack(0);
+            strokes -= 99;
+        }
         while (strokes < 999 && x.told(15) == 0) {
             x.stroke(1);
             strokes++;
@@ -756,7 +773,7 @@ public final class PromiseTest {
     }
 
     private static void fresh() {
-        PullSaw x = saw(PLAIN + "c1;");
+        Saw x = saw(PLAIN + "c1;");
         due("fresh(0, 0)", x.fresh(0, 0), UNKNOWN);
         due("fresh(0, 4)", x.fresh(0, 4), UNKNOWN);
         due("fresh(-1, 1)", x.fresh(-1, 1), UNKNOWN);
@@ -772,7 +789,7 @@ public final class PromiseTest {
         due("of its own", x.fresh(0, 1), halved);
         same("fresh()", allOf(x), was);
         x.file();
-        PullSaw y = pair(PLAIN + "c1;s6 2 0;", 1, 0);
+        Saw y = pair(PLAIN + "c1;s6 2 0;", 1, 0);
         due("TEETH as now", x.fresh(1, 0), y.toGo());
         x.habit(0, 4);
         y.habit(0, 4);
@@ -788,7 +805,7 @@ public final class PromiseTest {
     }
 
     private static void wishes() {
-        PullSaw x = saw("l1;p20 0 0 5 0;p20 0 0 5 0;");
+        Saw x = saw("l1;p20 0 0 5 0;p20 0 0 5 0;");
         due("wishes(0, 0, 0)", x.wishes(0, 0, 0), UNKNOWN);
         due("wishes(0, 2, 9)", x.wishes(0, 2, 9), UNKNOWN);
         due("wishes(0, 1, 3)", x.wishes(0, 1, 3), OUTSIDE);
@@ -825,7 +842,7 @@ public final class PromiseTest {
     }
 
     private static void quarrel() {
-        PullSaw x = saw("l9,9;p9 0 0 1 1;p9 0 0 1 2;p9 0 0 5 0;s1 0 0;");
+        Saw x = saw("l9,9;p9 0 0 1 1;p9 0 0 1 2;p9 0 0 5 0;s1 0 0;");
         due("quarrel(0, 0)", x.quarrel(0, 0), UNKNOWN);
         due("quarrel(0, 3)", x.quarrel(0, 3), UNKNOWN);
         due("quarrel(MIN, 0)", x.quarrel(MIN, 0), UNKNOWN);
@@ -849,12 +866,12 @@ public final class PromiseTest {
     }
 
     private static void withWhom() {
-        PullSaw x = saw("l1;p20 0 0 5 0;p20 0 0 5 0;p2 0 0 5 0;");
+        Saw x = saw("l1;p20 0 0 5 0;p20 0 0 5 0;p2 0 0 5 0;");
         due("withWhom(2)", x.withWhom(2), OUTSIDE);
         due("withWhom(-1)", x.withWhom(-1), OUTSIDE);
         due("withWhom(MAX)", x.withWhom(MAX), OUTSIDE);
-        due("OUTSIDE ahead of NOT", new PullSaw().withWhom(2), OUTSIDE);
-        due("NOT", new PullSaw().withWhom(1), NOT);
+        due("OUTSIDE ahead of NOT", new Saw().withWhom(2), OUTSIDE);
+        due("NOT", new Saw().withWhom(1), NOT);
         due("not so many PEOPLE", x.withWhom(0), NONE);
         due("not so many PEOPLE", x.withWhom(1), NONE);
         x = saw("l1;p20 0 0 5 0;p20 0 0 5 0;p2 0 0 5 0;p2 0 0 5 0;");
@@ -888,7 +905,7 @@ public final class PromiseTest {
     }
 
     private static void changes() {
-        PullSaw x = saw(PLAIN);
+        Saw x = saw(PLAIN);
         due("no PAIR", x.changes(1, 0, 0), NOT);
         due("OUTSIDE ahead of NOT", x.changes(0, 0, 0), OUTSIDE);
         x.log(0, 1);
@@ -927,7 +944,7 @@ public final class PromiseTest {
     }
 
     private static void whenWedge() {
-        PullSaw x = saw("l2,2;p10 0 0 5 0;p10 0 0 5 0;c1;");
+        Saw x = saw("l2,2;p10 0 0 5 0;p10 0 0 5 0;c1;");
         due("no PAIR", x.whenWedge(0), NOT);
         due("OUTSIDE ahead of NOT", x.whenWedge(2), OUTSIDE);
         x.log(0, 1);
@@ -965,7 +982,7 @@ public final class PromiseTest {
     }
 
     private static void wedgeTried(String text, int strokes, int ahead) {
-        PullSaw x = pair(text, 0, 1);
+        Saw x = pair(text, 0, 1);
         if (strokes > 0) {
             x.stroke(strokes);
         }
@@ -975,23 +992,20 @@ public final class PromiseTest {
     }
 
     private static int wedgeByTrying(String text, int strokes, int what) {
-        PullSaw x = pair(text, 0, 1);
+        Saw x = pair(text, 0, 1);
         if (strokes > 0) {
             x.stroke(strokes);
         }
         int fewest = x.toGo() == NONE ? 9999 : x.toGo();
         int best = NONE;
-        x.keep(0);
         for (int k = 0; k < 100; k++) {
-            x.goBack(0);
-            if (k > 0) {
-                x.stroke(k);
-            }
-            if (x.told(15) == 1) {
+            Saw y = pair(text, 0, 1);
+            y.strokes(strokes + k);
+            if (y.told(15) == 1) {
                 break;
             }
-            x.wedge();
-            int all = x.toGo() == NONE ? 9999 : x.toGo() + x.told(7) - strokes;
+            y.wedge();
+            int all = y.toGo() == NONE ? 9999 : y.toGo() + y.told(7) - strokes;
             if (all < fewest) {
                 fewest = all;
                 best = k;
@@ -1001,7 +1015,7 @@ public final class PromiseTest {
     }
 
     private static void whenRest() {
-        PullSaw x = saw(PLAIN);
+        Saw x = saw(PLAIN);
         due("no PAIR", x.whenRest(1, 0), NOT);
         due("OUTSIDE ahead of NOT", x.whenRest(0, 0), OUTSIDE);
         x.log(0, 1);
@@ -1044,7 +1058,7 @@ public final class PromiseTest {
         int leastRests = 0;
         String bestRow = "";
         for (int set = 0; set < 1 << n; set++) {
-            PullSaw x = pair(text, 0, 1);
+            Saw x = pair(text, 0, 1);
             x.stroke(strokes);
             StringBuilder row = new StringBuilder();
             for (int turn = 0; turn < n; turn++) {
@@ -1064,14 +1078,14 @@ public final class PromiseTest {
                 bestRow = row.toString();
             }
         }
-        PullSaw x = pair(text, 0, 1);
+        Saw x = pair(text, 0, 1);
         x.stroke(strokes);
         due("DEPTH, " + text, x.whenRest(n, 0), best);
         due("the SET, " + text, x.whenRest(n, 1), Integer.parseInt(new StringBuilder(bestRow).reverse().toString(), 2));
     }
 
     private static void worthFile() {
-        PullSaw x = saw(PLAIN);
+        Saw x = saw(PLAIN);
         due("no PAIR", x.worthFile(), NOT);
         x = pair("l9,9;p9 0 0 5 0;p9 0 0 5 0;s1 0 0;", 0, 1);
         due("200 less 100, less 20", x.worthFile(), 80);
@@ -1094,7 +1108,7 @@ public final class PromiseTest {
     // ---- what was seen
 
     private static void see() {
-        PullSaw x = new PullSaw();
+        Saw x = new Saw();
         due("see(-1)", x.see(-1), OUTSIDE);
         due("see(1000)", x.see(1000), OUTSIDE);
         due("see(MIN)", x.see(MIN), OUTSIDE);
@@ -1110,7 +1124,7 @@ public final class PromiseTest {
     }
 
     private static void habits() {
-        PullSaw x = saw("l1,1;p10 0 0 3 0;p6 0 5 8 0;s5 2 0;");
+        Saw x = saw("l1,1;p10 0 0 3 0;p6 0 5 8 0;s5 2 0;");
         due("habits(0, 0)", x.habits(0, 0), UNKNOWN);
         due("habits(0, 2)", x.habits(0, 2), UNKNOWN);
         due("habits(MIN, 0)", x.habits(MIN, 0), UNKNOWN);
@@ -1141,7 +1155,7 @@ public final class PromiseTest {
     }
 
     private static void end() {
-        PullSaw x = saw("l1,1;p10 0 0 5 0;p10 0 0 5 0;p8 0 0 5 0;");
+        Saw x = saw("l1,1;p10 0 0 5 0;p10 0 0 5 0;p8 0 0 5 0;");
         due("nothing SEEN", x.end(-1), 6);
         int[] pairs = {1, 2, 10, 12, 20, 21};
         for (int i = 0; i < 6; i++) {
@@ -1167,7 +1181,7 @@ public final class PromiseTest {
         due("none", x.end(-1), 0);
         due("none", x.end(0), NONE);
         due("one PERSON", saw("l1;p1 0 0 0 0;").end(-1), 0);
-        due("NOT", new PullSaw().end(0), NOT);
+        due("NOT", new Saw().end(0), NOT);
         x = saw("l1;p20 0 0 5 0;p20 0 0 5 0;");
         x.see(100);
         x.see(100);
@@ -1175,7 +1189,7 @@ public final class PromiseTest {
     }
 
     private static void write() {
-        PullSaw x = new PullSaw();
+        Saw x = new Saw();
         due("write(-1)", x.write(-1), OUTSIDE);
         due("write(1000)", x.write(1000), OUTSIDE);
         due("write(MAX)", x.write(MAX), OUTSIDE);
@@ -1189,7 +1203,7 @@ public final class PromiseTest {
     }
 
     private static void judge() {
-        PullSaw x = saw(PLAIN);
+        Saw x = saw(PLAIN);
         x.write(25);
         due("no PAIR", x.judge(), NOT);
         x.log(0, 1);
@@ -1217,7 +1231,7 @@ public final class PromiseTest {
     }
 
     private static void tear() {
-        PullSaw x = new PullSaw();
+        Saw x = new Saw();
         x.see(1);
         x.see(1);
         x.write(1);
@@ -1231,7 +1245,7 @@ public final class PromiseTest {
     // ---- images
 
     private static void seed() {
-        PullSaw x = new PullSaw();
+        Saw x = new Saw();
         due("seed(-1)", x.seed(-1), OUTSIDE);
         due("seed(MIN)", x.seed(MIN), OUTSIDE);
         due("seed(MAX)", x.seed(MAX), 0);
@@ -1242,7 +1256,7 @@ public final class PromiseTest {
     }
 
     private static void keep() {
-        PullSaw x = new PullSaw();
+        Saw x = new Saw();
         due("keep(-1)", x.keep(-1), UNKNOWN);
         due("keep(2)", x.keep(2), UNKNOWN);
         due("keep(MIN)", x.keep(MIN), UNKNOWN);
@@ -1262,7 +1276,7 @@ public final class PromiseTest {
     }
 
     private static void goBack() {
-        PullSaw x = pair(PLAIN + "s5 2 3;c0;", 0, 1);
+        Saw x = pair(PLAIN + "s5 2 3;c0;", 0, 1);
         due("goBack(-1)", x.goBack(-1), UNKNOWN);
         due("goBack(2)", x.goBack(2), UNKNOWN);
         due("goBack(MAX)", x.goBack(MAX), UNKNOWN);
