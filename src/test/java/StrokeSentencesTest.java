@@ -519,6 +519,11 @@ public final class StrokeSentencesTest extends Dues {
             x.stroke(2 * k - 1);
             due("REST of 2: STROKES", x.rest(2), 2 * k + 1);
             due("TIRED " + (k + 1) + ", 6 less", x.person(0, 6), k == 6 ? 1 : 0);
+            x = Saw.of(EVEN + "p9 0 0 5 0;p9 0 2 5 0;", 1, 0);
+            x.sides();
+            x.stroke(2 * k - 1);
+            due("LEFT now is RIGHT: STROKES", x.rest(2), 2 * k + 1);
+            due("RIGHT, TIRED " + (k + 1) + ", 6 less", x.person(1, 6), k == 6 ? 1 : 0);
         }
         for (int k : new int[] {295, 296, 297}) {
             Saw x = Saw.of("l9;p1 0 2 5 0;p1 0 0 5 0;s1 0 0;", 0, 1);

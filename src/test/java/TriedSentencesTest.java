@@ -9,6 +9,7 @@ public final class TriedSentencesTest extends Dues {
         freshBegins();
         nothingChanges();
         toGoBounds();
+        toGoBehindAStall();
         toGo();
         freshBounds();
         fresh();
@@ -146,6 +147,35 @@ public final class TriedSentencesTest extends Dues {
         // 90 and a last CUT by 11 each: what is told whole counts no more
         due("ten by 11", Saw.of("l5;p11 0 0 5 0;p11 0 0 5 0;", 0, 1).toGo(), 10);
         due("one too many", Saw.of("l1;p20 0 0 5 0;p20 0 0 5 0;s9 0 0;", 0, 1).toGo(), 1);
+    }
+
+    private static void toGoBehindAStall() {
+        says("3 TO GO", "how many STROKES till it is THROUGH");
+        // who pulls for nothing may do better by and by: less TIRED
+        String tired = "l1;p3 0 0 9 0;p3 0 5 9 0;";
+        for (int first = 0; first <= 1; first++) {
+            Saw x = Saw.of(tired, first, 1 - first);
+            x.stroke(30);
+            x.habit(0, 5);
+            x.habit(1, 5);
+            due("TIRED", x.person(0, 6), 45);
+            // 5 by TIRED 29 to 20, 10 by 19 to 15: from 45 on 31 turns, the other one cuts nothing
+            due("less TIRED by and by", x.toGo(), first == 0 ? 61 : 60);
+        }
+        // it answers less soft: 0 by -9 to -5, then 1, 2, 3, 4, and 5 sixteen times
+        for (int first = 0; first <= 1; first++) {
+            Saw x = Saw.of("l5;p5 0 0 4 2;p1 0 0 1 0;", first, 1 - first);
+            due("4, 3, 2, 1", x.stroke(18), 10);
+            due("ANSWER", x.person(0, 7), -9);
+            x.habit(1, 5);
+            due("softer no more", x.toGo(), first == 0 ? 49 : 50);
+        }
+        // it answers harder: 1, and 1 more by each turn, less 4: 1, 1, 2, 2, then 3 thirty-two times
+        Saw x = new Saw("l9;p1 0 0 5 1;p1 0 0 4 0;");
+        due("harder by and by", x.fresh(0, 1), 81);
+        due("harder by and by", x.fresh(1, 0), 82);
+        // harder as can be: 1 and 9, less 4, times 1 / 9 is nothing
+        due("never", Saw.of("l9;p1 0 0 4 1;p1 0 0 4 2;s1 0 0;", 1, 0).toGo(), NONE);
     }
 
     private static void toGo() {
@@ -375,6 +405,10 @@ public final class TriedSentencesTest extends Dues {
         x = new Saw("l1;p1 0 0 5 0;p3 0 0 5 0;p6 0 0 5 0;p20 0 0 5 0;");
         due("the last of three", x.withWhom(1), 3);
         due("the last of three", x.withWhom(0), 5);
+        // 0 with 1: 2, and never; 0 with 2 or 3: 3 and 3; and no more than three, though 0 alone were quick
+        x = new Saw("l1;p20 0 0 4 0;p20 0 0 4 0;p1 0 0 4 0;p1 0 0 4 0;");
+        due("2 and 3 alike", x.withWhom(1), 2);
+        due("2 and 3 alike", x.withWhom(0), 3);
     }
 
     private static void withWhomLesserFirst() {
@@ -449,6 +483,14 @@ public final class TriedSentencesTest extends Dues {
         x = Saw.of(EVEN + "p9 5 0 5 0;p9 5 0 5 0;", 0, 1);
         changesDue(x, 1, 0, 0, NONE);
         changesDue(x, 30, 0, 0, NONE);
+        x = Saw.of(EVEN + "p9 7 0 5 0;p9 3 0 5 0;", 0, 1);
+        x.stroke(1);
+        due("ASKEW", x.told(8), 4);
+        changesDue(x, 1, 0, 1, 0);
+        changesDue(x, 1, 3, 1, 0);
+        changesDue(x, 2, 3, NONE, NONE);
+        changesDue(x, 2, 4, 1, 0);
+        changesDue(x, 3, 4, 2, 0);
     }
 
     private static void changesEitherWay() {

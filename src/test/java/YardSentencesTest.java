@@ -408,6 +408,12 @@ public final class YardSentencesTest extends Dues {
                 faultDue(part + "  ", 1, length + 2);
             }
         }
+        // also where a longer text stood
+        for (int length = 1; length < 5; length++) {
+            Saw x = new Saw("l1,2;");
+            due("yard() of a part behind the whole", x.read("l1,2;".substring(0, length)), -11);
+            due("fault() of a part behind the whole", x.fault(), length);
+        }
     }
 
     private static void theLeast() {
