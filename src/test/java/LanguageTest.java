@@ -4,6 +4,9 @@ import com.sun.source.util.SourcePositions;
 import com.sun.source.util.TreeScanner;
 import com.sun.source.util.Trees;
 import java.io.File;
+import java.nio.charset.StandardCharsets;
+import java.nio.file.Files;
+import java.nio.file.Path;
 import java.util.ArrayList;
 import java.util.HashMap;
 import java.util.HashSet;
@@ -27,6 +30,11 @@ public final class LanguageTest {
         Tree.Kind.ASSERT, Tree.Kind.LAMBDA_EXPRESSION, Tree.Kind.MEMBER_REFERENCE, Tree.Kind.IMPORT, Tree.Kind.INSTANCE_OF,
         Tree.Kind.TYPE_CAST, Tree.Kind.FLOAT_LITERAL, Tree.Kind.DOUBLE_LITERAL, Tree.Kind.ANNOTATION, Tree.Kind.PACKAGE);
     private static final Set<String> LIBRARY = Set.of("min", "max", "abs", "bitCount");
+    /** Where an index is used: each of these looks at it first. */
+    private static final Set<String> INDEX_USERS = Set.of("Row.at", "Row.put", "Row.copy", "Row.fill", "Sheet.mark", "Past.Past",
+        "Past.placeAt");
+    /** A divisor is a number, a constant (none is 0) or the wood that was looked at just before. */
+    private static final String DIVISOR = "[1-9][0-9]*|[A-Z_]+|wood";
 
     private static int wrong = 0;
 
@@ -61,6 +69,9 @@ public final class LanguageTest {
             if (deep > 8) {
                 fail(method + " goes " + deep + " calls deep");
             }
+        }
+        if (!Files.readString(Path.of(FILE), StandardCharsets.ISO_8859_1).matches("[\\n -~]*")) {
+            fail("a sign that is not of 1 to 127, or no plain one");
         }
         if (wrong > 0) {
             System.exit(1);
@@ -141,7 +152,7 @@ public final class LanguageTest {
         public Void visitMethod(MethodTree node, Void nothing) {
             boolean maker = node.getReturnType() == null;
             boolean inside = within.size() > 1;
-            String name = maker ? within.get(within.size() - 1).getSimpleName().toString() : node.getName().toString();
+            String name = nameOf(node);
             Set<Modifier> flags = node.getModifiers().getFlags();
             if (!(inside && maker)) {
                 lookAtMember(name, flags, inside);
@@ -169,10 +180,49 @@ public final class LanguageTest {
             ExpressionTree called = node.getMethodSelect();
             String name = called instanceof MemberSelectTree ? ((MemberSelectTree) called).getIdentifier().toString() : called.toString();
             if (method != null && !name.equals("super")) {
-                String caller = method.getReturnType() == null ? within.get(within.size() - 1).getSimpleName().toString() : method.getName().toString();
-                calls.get(caller).add(name);
+                calls.get(nameOf(method)).add(name);
             }
             return super.visitMethodInvocation(node, nothing);
+        }
+
+        @Override
+        public Void visitArrayAccess(ArrayAccessTree node, Void nothing) {
+            String user = within.get(within.size() - 1).getSimpleName() + "." + nameOf(method);
+            if (!INDEX_USERS.contains(user)) {
+                fail("an index in " + user + ": " + node);
+            }
+            return super.visitArrayAccess(node, nothing);
+        }
+
+        @Override
+        public Void visitBinary(BinaryTree node, Void nothing) {
+            if (node.getKind() == Tree.Kind.DIVIDE || node.getKind() == Tree.Kind.REMAINDER) {
+                lookAtDivisor(node.getRightOperand());
+            } else if (node.getKind() == Tree.Kind.PLUS && (node + "").contains("\"")) {
+                fail("texts joined by +: " + node);
+            }
+            return super.visitBinary(node, nothing);
+        }
+
+        @Override
+        public Void visitCompoundAssignment(CompoundAssignmentTree node, Void nothing) {
+            if (node.getKind() == Tree.Kind.DIVIDE_ASSIGNMENT || node.getKind() == Tree.Kind.REMAINDER_ASSIGNMENT) {
+                lookAtDivisor(node.getExpression());
+            }
+            return super.visitCompoundAssignment(node, nothing);
+        }
+
+        private void lookAtDivisor(ExpressionTree divisor) {
+            if (!divisor.toString().matches(DIVISOR)) {
+                fail("a divisor: " + divisor);
+            }
+        }
+
+        private String nameOf(MethodTree node) {
+            if (node == null || node.getReturnType() == null) {
+                return within.get(within.size() - 1).getSimpleName().toString();
+            }
+            return node.getName().toString();
         }
 
         @Override
