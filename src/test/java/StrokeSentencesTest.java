@@ -621,6 +621,7 @@ public final class StrokeSentencesTest extends Dues {
         x.file();
         x.see(1);
         x.write(1);
+        x.seed(8);
         due("TIRED there was", x.person(0, 6), 3);
         due("ANSWER there was", x.person(0, 7), 2);
         due("log(0, 1)", x.log(0, 1), 0);
@@ -633,6 +634,7 @@ public final class StrokeSentencesTest extends Dues {
         due("WISHES stay", x.person(0, 5), 7);
         due("WISHES stay", x.person(2, 5), 3);
         due("HABITS stay", x.person(2, 3), 9);
+        due("THE SEED is not of the log", x.seed(0), 8);
         x.stroke(1);
         due("log(2, 1)", x.log(2, 1), 2);
         due("who is not of THE PAIR now: TIRED", x.person(0, 6), 0);

@@ -718,6 +718,10 @@ public final class TriedSentencesTest extends Dues {
         String text = nines(5) + "p9 0 0 5 0;p8 0 0 5 0;s1 0 0;c0;";
         wedgeDue("999 and 3", Saw.of(text, 0, 1), 0, 1002);
         wedgeDue("1000", Saw.of(text, 1, 0), NONE, NONE);
+        // 1000 all the same when some of them are ahead of the WEDGE
+        text = nines(5) + "p9 0 0 5 0;p8 0 0 5 0;s1 0 0;c4;";
+        wedgeDue("999 and 3", Saw.of(text, 0, 1), 0, 1002);
+        wedgeDue("1000, some ahead of it", Saw.of(text, 1, 0), NONE, NONE);
     }
 
     private static void whenWedge() {
